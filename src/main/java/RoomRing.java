@@ -695,6 +695,7 @@ public final class RoomRing {
         final int[] bytes = new int[MOST_BYTES];
         int length = 0;
         final int[] letters = new int[MOST_ORDERS];
+        /** The numbers of each order; what stands in seconds for an order of one number is not used. */
         final int[] firsts = new int[MOST_ORDERS];
         final int[] seconds = new int[MOST_ORDERS];
         int orderCount = 0;
@@ -747,8 +748,6 @@ public final class RoomRing {
                 return false;
             }
             letters[orderCount] = c;
-            firsts[orderCount] = 0;
-            seconds[orderCount] = 0;
             numbersRead = 0;
             awaited = NUMBER;
             return true;

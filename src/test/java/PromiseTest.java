@@ -168,6 +168,16 @@ public final class PromiseTest {
         due(4, "goes(10): all go to none", x.goes(10), 3);
         due(4, "has(0)", x.has(0), RoomRing.NONE);
         due(4, "count(4)", x.count(4), 3);
+        RoomRing y = new RoomRing();
+        for (int n = 0; n < 6; n++) {
+            y.host(n, 1 + n % 4);
+        }
+        y.goes(2);
+        due(4, "of(3, 0) stays", y.of(3, 0), 4);
+        due(4, "of(5, 0) stays", y.of(5, 0), 2);
+        due(4, "of(1, 0) stays", y.of(1, 0), 2);
+        due(4, "goes(5), the last by names", y.goes(5), 0);
+        due(4, "count(0)", y.count(0), 4);
     }
 
     private static void key() {
@@ -225,6 +235,18 @@ public final class PromiseTest {
         x.extra(200);
         due(5, "of(0, 1): 21 / 3", x.of(0, 1), 7);
         due(5, "of(10, 1): 42 / 3", x.of(10, 1), 14);
+        RoomRing y = new RoomRing();
+        y.host(1, 1);
+        y.host(2, 4);
+        y.host(3, 4);
+        y.host(4, 4);
+        for (int k = 0; k < 27; k++) {
+            y.key(k);
+        }
+        y.extra(45);
+        due(5, "of(1, 1): 39.15 / 13, hardly above 3", y.of(1, 1), 4);
+        y.extra(44);
+        due(5, "of(1, 1): 38.88 / 13, hardly below 3", y.of(1, 1), 3);
     }
 
     private static void drops() {
@@ -241,6 +263,14 @@ public final class PromiseTest {
         due(6, "drops(101)", x.drops(101), 1);
         due(6, "drops(202), the last", x.drops(202), 0);
         due(6, "count(1)", x.count(1), 0);
+        RoomRing y = new RoomRing();
+        for (int k = 0; k < 40; k++) {
+            y.key(k);
+        }
+        due(6, "drops(0) of 40", y.drops(0), 0);
+        due(6, "drops(39)", y.drops(39), 0);
+        due(6, "has(38)", y.has(38), RoomRing.NONE);
+        due(6, "count(1)", y.count(1), 38);
     }
 
     private static void extra() {
@@ -288,6 +318,8 @@ public final class PromiseTest {
         due(9, "mark(100, 0)", x.mark(100, 0), RoomRing.BAD);
         due(9, "mark(1, 7)", x.mark(1, 7), RoomRing.NO);
         due(9, "mark(1, 8): BAD is the first", x.mark(1, 8), RoomRing.BAD);
+        due(9, "told(0)", x.told(0), 5);
+        due(9, "told(1)", x.told(1), 1);
         x.weighs(0, 4);
         due(9, "mark(0, 7): 5 + 203 by 101", x.mark(0, 7), 6);
     }
@@ -301,6 +333,7 @@ public final class PromiseTest {
         due(10, "at(100)", x.at(100), RoomRing.NONE);
         due(10, "at(-1)", x.at(-1), RoomRing.BAD);
         due(10, "at(101)", x.at(101), RoomRing.BAD);
+        due(10, "told(0)", x.told(0), 2);
         x.goes(0);
         due(10, "at(5) without its host", x.at(5), RoomRing.NONE);
         due(10, "at(11)", x.at(11), 10);
@@ -319,6 +352,7 @@ public final class PromiseTest {
         due(11, "name(MAX)", x.name(Integer.MAX_VALUE), RoomRing.NONE);
         due(11, "name(-1)", x.name(-1), RoomRing.BAD);
         due(11, "name(MIN)", x.name(Integer.MIN_VALUE), RoomRing.BAD);
+        due(11, "told(0)", x.told(0), 2);
     }
 
     private static void share() {
@@ -331,6 +365,13 @@ public final class PromiseTest {
         due(12, "share(1)", x.share(1), RoomRing.NO);
         due(12, "share(-1)", x.share(-1), RoomRing.BAD);
         due(12, "share(100)", x.share(100), RoomRing.BAD);
+        due(12, "told(0)", x.told(0), 2);
+        due(12, "told(1)", x.told(1), 1);
+        RoomRing y = new RoomRing();
+        y.host(9, 1);
+        y.host(91, 1);
+        due(12, "share(91): 0, 1 to 28", y.share(91), 29);
+        due(12, "share(9): 29 to 71, 72 to 100", y.share(9), 72);
     }
 
     private static void has() {
@@ -340,6 +381,8 @@ public final class PromiseTest {
         due(13, "has(1)", x.has(1), RoomRing.NO);
         due(13, "has(-1)", x.has(-1), RoomRing.BAD);
         due(13, "has(1000)", x.has(1000), RoomRing.BAD);
+        due(13, "told(0)", x.told(0), 2);
+        due(13, "told(1)", x.told(1), 1);
         x.goes(0);
         x.goes(10);
         due(13, "has(101), no hosts", x.has(101), RoomRing.NONE);
@@ -359,6 +402,8 @@ public final class PromiseTest {
         due(14, "about(1000, 0)", x.about(1000, 0), RoomRing.BAD);
         due(14, "about(1, 0)", x.about(1, 0), RoomRing.NO);
         due(14, "about(1, 3): BAD is the first", x.about(1, 3), RoomRing.BAD);
+        due(14, "told(0)", x.told(0), 5);
+        due(14, "told(1)", x.told(1), 1);
         x.goes(0);
         x.goes(10);
         due(14, "about(101, 0), no hosts", x.about(101, 0), 17);
@@ -410,6 +455,7 @@ public final class PromiseTest {
         }
         due(17, "count(9)", x.count(9), RoomRing.BAD);
         due(17, "count(-1)", x.count(-1), RoomRing.BAD);
+        due(17, "told(0)", x.told(0), 2);
         x.key(303);
         x.key(0);
         due(17, "count(4) behind a refused call", x.count(4), 1);
@@ -422,6 +468,11 @@ public final class PromiseTest {
         due(17, "count(5), keys but no hosts", x.count(5), 0);
         RoomRing y = twoHosts();
         due(17, "count(5): none is as many as a bound of 0", y.count(5), 2);
+        RoomRing z = new RoomRing();
+        z.host(0, 1);
+        z.host(10, 2);
+        z.key(0);
+        due(17, "count(7), all at the first host", z.count(7), 1);
     }
 
     private static void type() {
@@ -521,6 +572,8 @@ public final class PromiseTest {
         due(21, "back()", x.back(), 4);
         due(21, "count(4): MOVED is back, too", x.count(4), 0);
         due(21, "has(0)", x.has(0), 0);
+        due(21, "at(5): the marks are back", x.at(5), 0);
+        due(21, "of(0, 1): the bounds are back", x.of(0, 1), 1);
         due(21, "back()", x.back(), 3);
         due(21, "has(101) did not come yet", x.has(101), RoomRing.NO);
         due(21, "count(4)", x.count(4), 1);
