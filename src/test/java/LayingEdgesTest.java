@@ -11,6 +11,7 @@ public final class LayingEdgesTest {
         asManyMarksAsThereMayBe();
         marksByRisingNames();
         namesByRising();
+        hostsThatStay();
         placesOfKeys();
         shares();
         boundsRoundedUp();
@@ -172,6 +173,34 @@ public final class LayingEdgesTest {
         Check.due("name(2), the first went", x.name(2), Check.NONE);
     }
 
+    private static void hostsThatStay() {
+        Check.sentence("4: HOST n goes, the first, the last or one between; the others stay as they are");
+        int[] weights = {4, 1, 3, 2, 4, 1};
+        for (int gone = 0; gone < 6; gone++) {
+            RoomRing x = Check.hosts(10, 4, 20, 1, 30, 3, 40, 2, 50, 4, 60, 1);
+            x.goes(10 + 10 * gone);
+            int index = 0;
+            for (int i = 0; i < 6; i++) {
+                if (i != gone) {
+                    Check.due("name(" + index + ")", x.name(index), 10 + 10 * i);
+                    Check.due("of(" + (10 + 10 * i) + ", 0)", x.of(10 + 10 * i, 0), weights[i]);
+                    index++;
+                }
+            }
+            Check.due("name(5)", x.name(5), Check.NONE);
+            Check.due("count(8)", x.count(8), 15 - weights[gone]);
+        }
+        Check.sentence("6: KEY k goes, the first, the last or one between; the others stay");
+        for (int gone = 0; gone < 40; gone++) {
+            RoomRing x = Check.keysUpTo(Check.hosts(7, 1), 40);
+            x.drops(gone);
+            for (int i = 0; i < 39; i++) {
+                Check.due("of(7, " + (3 + i) + ")", x.of(7, 3 + i), i < gone ? i : i + 1);
+            }
+            Check.due("of(7, 42)", x.of(7, 42), Check.NONE);
+        }
+    }
+
     private static void placesOfKeys() {
         Check.sentence("the PLACE of a KEY: (53 KEY + 17) by 101, what is left over");
         for (int from = 0; from < 1000; from += 40) {
@@ -198,6 +227,9 @@ public final class LayingEdgesTest {
         Check.due("share(9): 30 to 71, 72 to 100", y.share(9), 71);
         Check.due("share(59): 0, 29", y.share(59), 2);
         Check.due("share(91): 1, 2 to 28", y.share(91), 28);
+        RoomRing last = Check.hosts(0, 1, 59, 1);
+        Check.due("share(59): 0, 6 to 29, 35 to 100 round to 0", last.share(59), 91);
+        Check.due("share(0): 1 to 5, 30 to 34", last.share(0), 10);
         RoomRing z = Check.hosts(0, 1, 10, 2);
         Check.due("share(0): 99, 100, 0 to 5; 12 to 34", z.share(0), 31);
         Check.due("share(10)", z.share(10), 70);

@@ -7,12 +7,16 @@ import java.util.TreeMap;
 import java.util.regex.Pattern;
 
 /**
- * Runs of 512 calls, the same ones each time, on a RoomRing and on a slow model that works every
+ * Runs of up to 512 calls, the same ones each time, on a RoomRing and on a slow model that works every
  * answer out anew from the document's words; the first answer that differs is told.
  */
 public final class ModelTest {
-    private static final int RUNS = 120;
+    private static final int RUNS = 1000;
     private static final int CALLS = 512;
+    private static final int MOST_TYPED = 125;
+    /** A text is cleared, typed and done, with a digest behind it. */
+    private static final int MOST_CALLS_A_STEP = MOST_TYPED + 3;
+    private static final int STEPS_A_DIGEST = 4;
     private static final int NONE = -1, BAD = -2, NO = -3, FULL = -4;
 
     /** How the keys lie: of each key {HOST or NONE, PASSED, FAR}. */
@@ -426,8 +430,10 @@ public final class ModelTest {
     }
 
     private static String log = "";
+    private static int calls = 0;
 
     private static boolean same(String call, long got, long want) {
+        calls++;
         log = call + " answered " + got + ", due is " + want;
         return got == want;
     }
@@ -514,7 +520,7 @@ public final class ModelTest {
             return false;
         }
         String text = someText(random, m, span);
-        for (int i = 0; i < text.length(); i++) {
+        for (int i = 0; i < text.length() && i < MOST_TYPED; i++) {
             int c = random.nextInt(400) == 0 ? pick(random, 127, 128) : text.charAt(i);
             if (!same("type(" + c + ")", x.type(c), m.type(c))) {
                 return false;
@@ -529,16 +535,18 @@ public final class ModelTest {
         Model m = new Model();
         int span = random.nextBoolean() ? 1 : 2 + random.nextInt(40);
         int texts = random.nextInt(4);
-        for (int call = 0; call < CALLS; call++) {
+        calls = 0;
+        for (int step = 0; calls + MOST_CALLS_A_STEP <= CALLS; step++) {
             int kind = random.nextInt(24);
             boolean good = kind < texts ? writes(random, x, m, span)
                 : kind < 14 ? tells(random, x, m, span) : asks(random, x, m, span);
             if (!good) {
-                System.out.println("run " + seed + ", step " + call + ": " + log);
+                System.out.println("run " + seed + ", step " + step + ": " + log);
                 return false;
             }
-            if (x.digest() != m.digest()) {
-                System.out.println("run " + seed + ", step " + call + ": the digest differs behind: " + log);
+            String last = log;
+            if (step % STEPS_A_DIGEST == 0 && !same("digest()", x.digest(), m.digest())) {
+                System.out.println("run " + seed + ", step " + step + ": the digest differs behind: " + last);
                 return false;
             }
         }
